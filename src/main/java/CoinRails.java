@@ -397,7 +397,7 @@ public final class CoinRails {
             return rejected;
         }
 
-        /** Frees a rail that is stuck and answers the kind of its coin. */
+        /** Frees a rail and answers the kind of its coin. It is stuck: the caller has seen to it. */
         int loosen(int rail) {
             int kind = stuckKind[rail];
             if (isFull(rail)) {
@@ -485,7 +485,7 @@ public final class CoinRails {
         int coinsIn(int rail) {
             int coins = 0;
             for (int kind = 0; kind < KINDS; kind++) {
-                coins += coinsOfKind(rail, kind);
+                coins += bags[rail * KINDS + kind];
             }
             return coins;
         }

@@ -52,7 +52,8 @@ public final class ModelTest {
             case 0, 1: {
                 int diameter = rarely() ? ODD[below(ODD.length)] : diameterNearAGap(m);
                 int value = rarely() ? below(3) * 501 - 501 : 1 + below(500);
-                same(where + "addKind", () -> x.addKind(diameter, value, b > 5 ? 0 : a), () -> m.addKind(diameter, value, b > 5 ? 0 : a));
+                int rail = b > 5 ? 0 : a;
+                same(where + "addKind", () -> x.addKind(diameter, value, rail), () -> m.addKind(diameter, value, rail));
                 break;
             }
             case 2: {

@@ -35,6 +35,7 @@ public final class PromisesTest {
         promise22ParseErrors();
         promise23Undo();
         promise24Digest();
+        lastKindAndLastRail();
         check.end();
     }
 
@@ -270,6 +271,7 @@ public final class PromisesTest {
         check.same("all full", x.value(9), 6);
         check.same("a reject", x.feed(0, 0), NONE);
         x.takeBag(3);
+        check.same("the other bags stay", x.value(2), 200);
         check.same("the one empty bag", x.feed(0, 0), 3);
     }
 
@@ -331,6 +333,7 @@ public final class PromisesTest {
         x.addKind(1498, 7, 0);
         feedTimes(x, 5, 0, 0);
         check.same("stuck", x.feed(1, 0), 10);
+        check.same("stuck rails", x.value(3), 1);
         check.undoable("free", x, () -> x.free(0));
         check.same("free", x.free(0), 1);
         check.same("in the bag", x.count(0, 1), 1);
@@ -844,6 +847,58 @@ public final class PromisesTest {
         check.same("digest differs", before == x.digest() ? 1 : 0, 0);
         x.undo();
         check.same("digest counts the states", x.digest(), hash(valuesOf(x, 4, 3)));
+    }
+
+    /** The sixth kind and the sixth rail count in all that is summed, taken and undone. */
+    private static void lastKindAndLastRail() {
+        CoinRails x = new CoinRails();
+        for (int kind = 0; kind < 6; kind++) {
+            x.addKind(1490 + 400 * kind, 10 + kind, kind);
+        }
+        for (int kind = 0; kind < 6; kind++) {
+            check.same("falls home", x.feed(kind, 0), kind);
+        }
+        x.feed(5, 1000 - 5);
+        feedTimes(x, 2, 5, 0);
+        check.same("bag 5", x.rail(5, 2), 3);
+        check.same("of kind 5", x.kind(5, 3), 4);
+        values(x, new int[] {6, 9, 9, 0, 0, 0, 1, 10 + 11 + 12 + 2 * 13 + 14 + 45, 10 + 11 + 12 + 13 + 14 + 60, 0});
+        check.undoable("last use", x, () -> x.feed(5, 0));
+        check.same("supply of the last", x.supply(5), 37);
+        feedTimes(x, 37, 5, 0);
+        check.same("use of the last", x.rail(5, 0), 3502);
+        check.same("a reject of the last", x.feed(5, 0), NONE);
+        values(x, new int[] {6, 47, 46, 0, 1, 0, 1, 73 + 600, 60 + 15 + 600, 1});
+        check.undoable("last rejects", x, () -> x.takeRejects());
+        check.undoable("last bag", x, () -> x.takeBag(5));
+        check.undoable("last home", x, () -> x.setHome(5, 0));
+        check.undoable("last gap", x, () -> x.setGap(5, 3000));
+        check.same("gap undone", x.rail(5, 0), 3502);
+        check.same("take the last reject", x.takeRejects(), 1);
+        check.same("it is gone", x.kind(5, 5), 0);
+        check.same("take the last bag", x.takeBag(5), 40);
+        check.same("its coins are gone", x.count(5, 5), 0);
+        x.takeBag(2);
+        check.same("the bag behind the taken one", x.count(3, 3), 1);
+        check.same("the last kind in it", x.count(3, 5), 1);
+        x.takeBag(3);
+        check.same("the last kind is taken", x.count(3, 5), 0);
+        check.same("the bag ahead of the taken one", x.count(1, 1), 1);
+
+        x.setGap(5, 3486);
+        check.same("stuck in the last", x.feed(5, 0), 15);
+        check.same("stuck rails", x.value(3), 1);
+        check.same("stuck of the last kind", x.kind(5, 4), 1);
+        check.undoable("last free", x, () -> x.free(5));
+        check.same("its wear", x.rail(5, 4), 5);
+        check.same("free the last", x.free(5), 5);
+        check.undoable("last stuck", x, () -> x.feed(5, 0));
+        check.same("not stuck", x.rail(5, 3), NONE);
+        x.setHome(5, 4);
+        check.same("misfits in the last", x.value(6), 1);
+        check.same("the last kind is the worst", x.worstKind(), 5);
+        x.setHome(0, 1);
+        check.same("the first is the worst", x.worstKind(), 0);
     }
 
     private static void threeKindsAndMore(CoinRails x) {

@@ -8,8 +8,33 @@ final class Check {
     static final Class<IllegalArgumentException> ARGUMENT = IllegalArgumentException.class;
     static final Class<IllegalStateException> STATE = IllegalStateException.class;
 
+    private static final long MOST_SECONDS = 300;
+
     private int checked;
     private int wrong;
+    /** What stands ahead of each line that tells of a wrong answer. */
+    private String test = "";
+
+    Check() {
+        Thread watch = new Thread(Check::endIfLate);
+        watch.setDaemon(true);
+        watch.start();
+    }
+
+    /** A call of a broken program may not come to its end; the test must do so. */
+    private static void endIfLate() {
+        try {
+            Thread.sleep(1000 * MOST_SECONDS);
+        } catch (InterruptedException e) {
+            return;
+        }
+        System.out.println("not ended after " + MOST_SECONDS + " seconds");
+        Runtime.getRuntime().halt(1);
+    }
+
+    void begin(String name) {
+        test = name + ": ";
+    }
 
     void same(String what, long got, long want) {
         checked++;
@@ -85,8 +110,8 @@ final class Check {
         }
     }
 
-    private void wrong(String text) {
+    void wrong(String text) {
         wrong++;
-        System.out.println(text);
+        System.out.println(test + text);
     }
 }

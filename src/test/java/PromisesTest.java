@@ -264,7 +264,7 @@ public final class PromisesTest {
         check.same("rolled over the full one", x.rail(0, 9), 1);
         check.same("use stays", x.rail(0, 1), 0);
         for (int rail = 1; rail < 6; rail++) {
-            while (x.rail(rail, 2) < 40) {
+            for (int coins = x.rail(rail, 2); coins < 40; coins++) {
                 check.same("falls on", x.feed(0, 0), rail);
             }
         }

@@ -20,9 +20,9 @@ import javax.tools.StandardJavaFileManager;
 import javax.tools.ToolProvider;
 
 /**
- * CoinRails.java keeps to those rules of ../shared/LANGUAGE.md that its syntax tree can tell. It cannot tell all: that
- * an index is looked at before it is used (7), that a loop ends (9) and how many objects a run makes (12) is for
- * readers, and so is each part of the library that the program does not use yet.
+ * CoinRails.java keeps to a part of ../shared/LANGUAGE.md, what is easily seen in a syntax tree: of the rules 1 to 6, 10
+ * and 11. That an index is looked at before it is used (7), that a loop ends (9) and how many objects a run makes (12)
+ * is for readers, and so is each part of the language that the program does not use yet.
  */
 public final class LanguageTest {
     private static final Path SOURCE = Path.of("src/main/java/CoinRails.java");
